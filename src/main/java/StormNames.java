@@ -883,7 +883,7 @@ public final class StormNames {
             int figures = 0;
             int value = 0;
             while (at + figures < length && isFigure(bytes[at + figures])) {
-                value = Math.min(1000, value * 10 + bytes[at + figures] - '0');
+                value = value * 10 + bytes[at + figures] - '0';
                 figures++;
             }
             if (figures < 1 || figures > 2) {

@@ -156,6 +156,9 @@ public final class PromisesTest {
         due("sums wrap", x.copy(0, Integer.MAX_VALUE, 1, 0, Integer.MAX_VALUE), PLACE);
         due("sums wrap", x.copy(0, 1, 1, 1, Integer.MAX_VALUE), PLACE);
         due("status", x.status(), 2);
+        x.row(7, 2, 3);
+        due("to 7", x.copy(0, 0, 7, 0, 3), 3);
+        due("from 7", x.copy(7, 0, 1, 0, 3), 3);
         x.row(2, 1, 3);
         due("two lanes", x.copy(0, 9, 2, 0, 0), STORE);
         due("status", x.status(), 5);
@@ -163,6 +166,8 @@ public final class PromisesTest {
         due("b missing", x.copy(2, 0, 3, 9, 1), NULL);
         due("both the missing one", x.copy(3, 0, 3, 0, 1), NULL);
         due("a -1", x.copy(-1, 0, 3, 0, 1), BAD);
+        due("a 8", x.copy(8, 0, 3, 0, 1), BAD);
+        due("b -1", x.copy(3, 0, -1, 0, 1), BAD);
         due("b 8", x.copy(3, 0, 8, 0, 1), BAD);
         due("status stays", x.status(), 1);
         overlapping();
@@ -286,6 +291,7 @@ public final class PromisesTest {
         x.row(3, 0, 3);
         x.hours(6);
         x.veer();
+        x.later(2, 0);
         Due.feed(x, "s7,1;w2,3;");
         due("coast", x.coast(), 1);
         same("in place of it", seen(x), "1 0 7 0 1 1 0 |4 2 3");
@@ -600,6 +606,10 @@ public final class PromisesTest {
         StormNames x = Due.coastOf(FIVE);
         x.still();
         due("nothing changes", x.count(3), 40);
+        x.later(30, 0);
+        due("from now on", x.still(), 20);
+        x.hours(5);
+        due("from now on", x.still(), 15);
     }
 
     private static void promise19() {
@@ -615,6 +625,8 @@ public final class PromisesTest {
         due("who", x.bare(0), 1);
         due("when", x.bare(1), 9);
         due("nothing changes", x.soul(1, 1), 9);
+        x.later(30, 0);
+        due("from now on", x.bare(1), 9);
         x = Due.coastOf("s60,0;m1,30;m1,0;m1,0;");
         due("the least of several", x.bare(0), 1);
         x = Due.coastOf("s5,0;m1,30;m1,30;");
@@ -680,6 +692,8 @@ public final class PromisesTest {
         }
         due("the greatest k", x.order(Integer.MAX_VALUE), NONE);
         due("guilt stays", x.soul(0, 0), 12);
+        x.raise(0, 0);
+        due("none now", x.order(0), NONE);
         x = Due.coastOf("s0,0;m5,1;");
         due("none is shortest", x.order(0), NONE);
         due("none is shortest", x.order(-1), 0);
@@ -808,6 +822,8 @@ public final class PromisesTest {
         }
         x = Due.coastOf("s0,0;m1,0;m1,0;");
         due("no roofs", x.premium(0, 99), 0);
+        x = Due.coastOf("s0,0;m1,0;m1,1;");
+        due("one roof", x.premium(1, 999), 999);
         x = Due.coastOf("s0,0;m1,0;m1,1;m1,0;m1,1;m1,1;");
         due("none to those without", x.premium(0, 2), 0);
         due("the first", x.premium(1, 2), 1);
@@ -854,6 +870,8 @@ public final class PromisesTest {
         rowOf(x, 30, 30, 30, 30, 30, 30, 30, 30, 30, 30, 30, 30);
         due("twelve", x.fits(0, 0, 0, 12, 1), 0);
         due("the last place, too", x.fits(2, 0, 0, 1, 2), 3);
+        x.row(7, 0, 1);
+        due("row 7", x.fits(0, 7, 0, 1, 0), 0);
         rowOf(x, 9);
         due("another soul", x.fits(1, 0, 0, 1, 2), 5);
         due("every force", x.fits(1, 0, 0, 1, 0), 61);
@@ -883,6 +901,9 @@ public final class PromisesTest {
         x = Due.coastOf("s0,0;m1,30;m1,5;");
         due("raised by 32 at 1", x.drawn(1, 1, 0), 5);
         due("raised at 1", x.drawn(1, 1, 1), 1);
+        x = Due.coastOf("s0,0;m1,30;");
+        due("alone", x.drawn(1, 1, 0), 6);
+        due("again", x.drawn(1, 1, 0), 6);
         x = Due.coastOf("s20,0;m1,30;m1,5;");
         due("not raised", x.drawn(1, 1, 0), 4);
         // 3 * 16807 is 50421: the soul 1 of two
