@@ -10,18 +10,6 @@ public final class PromisesTest {
         DUE.due("promise " + promise + ": " + call, got, want);
     }
 
-    /** All that can be seen of the coast now. */
-    private static String seen(StormNames x) {
-        StringBuilder text = new StringBuilder();
-        for (int what = 1; what <= 7; what++) {
-            text.append(x.count(what)).append(' ');
-        }
-        for (int s = 0; s < x.count(1); s++) {
-            text.append('|').append(x.kind(s)).append(' ').append(x.soul(s, 0)).append(' ').append(x.soul(s, 1));
-        }
-        return text.toString();
-    }
-
     private static void same(String call, String got, String want) {
         due(call + " leaves <" + got + ">, due is <" + want + ">", got.equals(want) ? 1 : 0, 1);
     }
@@ -232,13 +220,13 @@ public final class PromisesTest {
     private static void fails(String text, int place, int fault) {
         StormNames x = Due.coastOf(FIVE);
         x.hours(2);
-        String before = seen(x);
+        String before = Seen.coast(x);
         Due.feed(x, text);
         due("coast of " + text, x.coast(), -1000100 - place);
         due("fault of " + text, x.fault(), fault);
         due("bytes", x.count(9), 0);
         due("acts stay", x.count(8), 2);
-        same("a fault", seen(x), before);
+        same("a fault", Seen.coast(x), before);
     }
 
     private static void promise7() {
@@ -282,11 +270,11 @@ public final class PromisesTest {
 
     private static void coastsThatStand() {
         StormNames x = Due.coastOf("s60,5;o20,30;");
-        same("the greatest", seen(x), "1 0 60 0 1 5 0 |5 20 30");
+        same("the greatest", Seen.coast(x), "1 0 60 0 1 5 0 |5 20 30");
         x = Due.coastOf("s00,0;m00,00;l05,07;");
-        same("naughts ahead", seen(x), "2 0 0 0 1 0 0 |1 0 0|2 5 7");
+        same("naughts ahead", Seen.coast(x), "2 0 0 0 1 0 0 |1 0 0|2 5 7");
         x = Due.coastOf(FIVE);
-        same("five", seen(x), "5 0 40 0 1 2 0 |1 12 20|2 18 9|3 9 30|4 10 14|5 3 0");
+        same("five", Seen.coast(x), "5 0 40 0 1 2 0 |1 12 20|2 18 9|3 9 30|4 10 14|5 3 0");
         x.image(0);
         x.row(3, 0, 3);
         x.hours(6);
@@ -294,13 +282,13 @@ public final class PromisesTest {
         x.later(2, 0);
         Due.feed(x, "s7,1;w2,3;");
         due("coast", x.coast(), 1);
-        same("in place of it", seen(x), "1 0 7 0 1 1 0 |4 2 3");
+        same("in place of it", Seen.coast(x), "1 0 7 0 1 1 0 |4 2 3");
         due("no act", x.count(8), 0);
         due("undo", x.undo(), STATE);
         due("bytes", x.count(9), 0);
         due("rows stay", x.drop(3), 3);
         due("images stay", x.restore(0), 1);
-        same("the image", seen(x), "5 0 40 0 1 2 0 |1 12 20|2 18 9|3 9 30|4 10 14|5 3 0");
+        same("the image", Seen.coast(x), "5 0 40 0 1 2 0 |1 12 20|2 18 9|3 9 30|4 10 14|5 3 0");
     }
 
     private static void promise8() {
@@ -337,15 +325,15 @@ public final class PromisesTest {
         due("0", x.hours(0), BAD);
         due("25", x.hours(25), BAD);
         due("1", x.hours(1), 20);
-        same("1", seen(x), "3 1 20 1 1 1 4 |1 1 26|2 1 2|3 1 9");
+        same("1", Seen.coast(x), "3 1 20 1 1 1 4 |1 1 26|2 1 2|3 1 9");
         due("2", x.hours(1), 19);
-        same("no more than there are", seen(x), "3 2 19 2 1 1 6 |1 1 26|2 1 0|3 1 9");
+        same("no more than there are", Seen.coast(x), "3 2 19 2 1 1 6 |1 1 26|2 1 0|3 1 9");
         due("3", x.hours(1), 18);
-        same("it stays, and turns", seen(x), "3 3 18 2 0 1 9 |1 1 26|2 1 0|3 1 6");
+        same("it stays, and turns", Seen.coast(x), "3 3 18 2 0 1 9 |1 1 26|2 1 0|3 1 6");
         due("5", x.hours(2), 16);
-        same("down", seen(x), "3 5 16 0 0 1 12 |1 1 26|2 1 0|3 1 3");
+        same("down", Seen.coast(x), "3 5 16 0 0 1 12 |1 1 26|2 1 0|3 1 3");
         due("6", x.hours(1), 15);
-        same("it turns below", seen(x), "3 6 15 0 1 1 15 |1 1 23|2 1 0|3 1 3");
+        same("it turns below", Seen.coast(x), "3 6 15 0 1 1 15 |1 1 23|2 1 0|3 1 3");
         due("acts", x.count(8), 6);
         due("30", x.hours(24), 0);
         due("acts", x.count(8), 24);
@@ -353,18 +341,18 @@ public final class PromisesTest {
         due("it goes on without force", x.count(2), 31);
         x = Due.coastOf("s4,5;m1,30;");
         due("no less than 0", x.hours(1), 0);
-        same("alone", seen(x), "1 1 0 0 0 5 0 |1 1 30");
+        same("alone", Seen.coast(x), "1 1 0 0 0 5 0 |1 1 30");
         due("again", x.hours(1), 0);
-        same("alone", seen(x), "1 2 0 0 1 5 0 |1 1 30");
+        same("alone", Seen.coast(x), "1 2 0 0 1 5 0 |1 1 30");
         x = Due.coastOf("s60,0;m1,30;");
         for (int i = 0; i < 416; i++) {
             x.hours(24);
         }
         due("hour", x.count(2), 9984);
-        String before = seen(x);
+        String before = Seen.coast(x);
         due("16 more", x.hours(16), FULL);
         due("BAD ahead of FULL", x.hours(25), BAD);
-        same("FULL", seen(x), before);
+        same("FULL", Seen.coast(x), before);
         due("15 more", x.hours(15), 60);
         due("hour", x.count(2), 9999);
         due("1 more", x.hours(1), FULL);
@@ -448,7 +436,7 @@ public final class PromisesTest {
         due("place 5", x.raise(0, 5), BAD);
         due("acts", x.count(8), 3);
         due("raise", x.raise(60, 4), 34);
-        same("raised", seen(x), "5 3 60 4 1 2 22 |1 12 12|2 18 2|3 9 23|4 10 14|5 3 0");
+        same("raised", Seen.coast(x), "5 3 60 4 1 2 22 |1 12 12|2 18 2|3 9 23|4 10 14|5 3 0");
         due("raise", x.raise(0, 0), 60);
         due("way stays", x.count(5), 1);
         due("force", x.count(3), 0);
@@ -464,7 +452,7 @@ public final class PromisesTest {
         due("down", x.veer(), 0);
         due("up", x.veer(), 1);
         due("down", x.veer(), 0);
-        same("nothing else", seen(x), "5 0 40 0 0 2 0 |1 12 20|2 18 9|3 9 30|4 10 14|5 3 0");
+        same("nothing else", Seen.coast(x), "5 0 40 0 0 2 0 |1 12 20|2 18 9|3 9 30|4 10 14|5 3 0");
         due("acts", x.count(8), 3);
         x.hours(1);
         due("it turns", x.count(5), 1);
@@ -478,7 +466,7 @@ public final class PromisesTest {
         due("none", x.undo(), STATE);
         String[] before = new String[7];
         for (int act = 0; act < 7; act++) {
-            before[act] = seen(x);
+            before[act] = Seen.coast(x);
             switch (act) {
                 case 0: x.hours(1); break;
                 case 1: x.confess(3); break;
@@ -492,13 +480,13 @@ public final class PromisesTest {
         due("acts", x.count(8), 7);
         for (int act = 6; act >= 0; act--) {
             due("undo", x.undo(), act);
-            same("undo " + act, seen(x), before[act]);
+            same("undo " + act, Seen.coast(x), before[act]);
         }
         due("none", x.undo(), STATE);
         x.mend(2, 30);
         x.mend(2, 30);
         due("also what changes nothing", x.undo(), 1);
-        same("undo", seen(x), before[0]);
+        same("undo", Seen.coast(x), before[0]);
         x.undo();
         manyActs();
     }
@@ -512,7 +500,7 @@ public final class PromisesTest {
             due("undo", x.undo(), i);
         }
         due("the oldest is forgotten", x.undo(), STATE);
-        same("the confession stays", seen(x), "2 0 52 0 1 0 0 |1 5 10|1 10 10");
+        same("the confession stays", Seen.coast(x), "2 0 52 0 1 0 0 |1 5 10|1 10 10");
         x.hours(3);
         due("undo", x.undo(), 2);
         due("hours", x.hours(2), 52);
@@ -571,7 +559,7 @@ public final class PromisesTest {
         due("1 on", x.roofs(0, 1), 12);
         due("2 on", x.roofs(1, 2), 2);
         due("60 on", x.roofs(0, 60), 4);
-        same("nothing changes", seen(x), "5 0 40 0 1 2 0 |1 12 20|2 18 9|3 9 30|4 10 14|5 3 0");
+        same("nothing changes", Seen.coast(x), "5 0 40 0 1 2 0 |1 12 20|2 18 9|3 9 30|4 10 14|5 3 0");
         due("acts", x.count(8), 0);
     }
 
@@ -591,7 +579,7 @@ public final class PromisesTest {
         due("what 3", x.later(0, 3), BAD);
         x.hours(2);
         due("what is lost in all", x.later(0, 2), 15);
-        same("nothing changes", seen(x), "5 2 36 2 1 2 15 |1 12 12|2 18 2|3 9 30|4 10 14|5 3 0");
+        same("nothing changes", Seen.coast(x), "5 2 36 2 1 2 15 |1 12 12|2 18 2|3 9 30|4 10 14|5 3 0");
         due("acts", x.count(8), 2);
     }
 
@@ -727,7 +715,7 @@ public final class PromisesTest {
         due("how much", x.named(30, 1), 23);
         x.hours(1);
         due("in them alone", x.named(1, 1), 4);
-        same("nothing changes", seen(x), "5 1 38 1 1 2 8 |1 12 12|2 18 9|3 9 30|4 10 14|5 3 0");
+        same("nothing changes", Seen.coast(x), "5 1 38 1 1 2 8 |1 12 12|2 18 9|3 9 30|4 10 14|5 3 0");
         x = Due.coastOf("s40,0;m9,5;m1,5;");
         due("none", x.named(3, 0), NONE);
         due("none", x.named(3, 1), NONE);
@@ -866,7 +854,7 @@ public final class PromisesTest {
         due("from 5 on", x.fits(0, 0, 5, 1, 0), 0);
         due("none", x.fits(0, 0, 5, 1, 1), NONE);
         due("no place", x.fits(0, 0, 5, 1, 2), 0);
-        same("nothing changes", seen(x), "3 0 40 0 1 2 0 |1 0 30|1 0 9|1 0 30");
+        same("nothing changes", Seen.coast(x), "3 0 40 0 1 2 0 |1 0 30|1 0 9|1 0 30");
         rowOf(x, 30, 30, 30, 30, 30, 30, 30, 30, 30, 30, 30, 30);
         due("twelve", x.fits(0, 0, 0, 12, 1), 0);
         due("the last place, too", x.fits(2, 0, 0, 1, 2), 3);
@@ -894,7 +882,7 @@ public final class PromisesTest {
         due("20", x.drawn(20, 7, 1), 2);
         due("60", x.drawn(60, 9, 0), 73);
         due("60", x.drawn(60, 9, 1), 5);
-        same("nothing changes", seen(x), "5 0 40 0 1 2 0 |1 12 20|2 18 9|3 9 30|4 10 14|5 3 0");
+        same("nothing changes", Seen.coast(x), "5 0 40 0 1 2 0 |1 12 20|2 18 9|3 9 30|4 10 14|5 3 0");
         x.hours(1);
         due("in them alone", x.drawn(0, 1, 0), 0);
         // 16807 by 61 leaves 32, by 3 leaves 1, by 2 leaves 1
@@ -931,16 +919,16 @@ public final class PromisesTest {
         due("0", x.image(0), 1);
         due("1 was not kept", x.restore(1), STATE);
         x.hours(2);
-        String then = seen(x);
+        String then = Seen.coast(x);
         due("acts stay", x.count(8), 2);
         due("1", x.image(1), 1);
         x.hours(2);
         x.restore(1);
-        same("image 1", seen(x), then);
+        same("image 1", Seen.coast(x), then);
         x.image(0);
         x.veer();
         x.restore(0);
-        same("image 0 is another", seen(x), then);
+        same("image 0 is another", Seen.coast(x), then);
     }
 
     private static void promise29() {
@@ -953,22 +941,22 @@ public final class PromisesTest {
         x.hours(7);
         x.confess(1);
         x.veer();
-        String then = seen(x);
+        String then = Seen.coast(x);
         x.image(1);
         due("none was kept", x.restore(0), STATE);
         due("acts", x.count(8), 9);
         due("restore", x.restore(1), 1);
         due("no act", x.count(8), 0);
         due("undo", x.undo(), STATE);
-        same("the same", seen(x), then);
+        same("the same", Seen.coast(x), then);
         Due.feed(x, "s1,1;o1,1;");
         x.coast();
         due("restore", x.restore(1), 1);
-        same("another coast before", seen(x), then);
+        same("another coast before", Seen.coast(x), then);
         x.mend(4, 3);
         x.confess(0);
         due("restore again", x.restore(1), 1);
-        same("the image stays", seen(x), then);
+        same("the image stays", Seen.coast(x), then);
     }
 
     private static void asked() {
